@@ -12,6 +12,7 @@ public final class PromisesTest {
     use();
     fan();
     solveRounds();
+    smallChanges();
     solveGates();
     solveFan();
     solveCases();
@@ -207,6 +208,29 @@ public final class PromisesTest {
     DuctBalance slow = half(64, 0.21004, 1000);
     Check.due("a 101st is not done", () -> slow.solve(0), -1);
     Check.state("not balanced, not solved", () -> slow.at(0, 0));
+  }
+
+  // the fan, a duct of EASE 1 and behind it a dead end: half the fan's pressure comes in the first round
+  private static DuctBalance weak(double strength, double fall) {
+    DuctBalance x = new DuctBalance();
+    x.joint();
+    x.joint();
+    x.duct(0, 1, 1, 1);
+    x.duct(1, 2, 1, 1);
+    x.fan(strength, fall);
+    return x;
+  }
+
+  private static void smallChanges() {
+    double small = 1.0 / 1048576;
+    Check.due("a change of 2^-20 is not below it", () -> weak(2 * small, 0).solve(0), 2);
+    Check.due("a change just below", () -> weak(2 * small * (1 - 1e-12), 0).solve(0), 1);
+    DuctBalance x = weak(3 * small, 1000);
+    Check.due("the fan never blows", () -> x.solve(0), 2);
+    Check.due("its pressure is held at 0", () -> x.at(0, 0), 0.0);
+    Check.due("the next joint's", () -> x.at(1, 0), -0.75 * small);
+    Check.due("the dead end's", () -> x.at(2, 0), -0.75 * small);
+    Check.due("the flow to the fan is below 0 now", () -> x.of(0, 0), 0.75 * small);
   }
 
   private static void solveGates() {
