@@ -231,7 +231,7 @@ final class PlainModel {
   }
 
   boolean keeps(double least) {
-    said(least >= 0);
+    said(!(least < 0));
     state(solved);
     return ducts.stream().allMatch(duct -> speed(duct) >= least);
   }
