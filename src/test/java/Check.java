@@ -1,3 +1,5 @@
+import java.util.List;
+
 /** Counts and prints what is not as it is due; a test ends with {@link #end}. */
 final class Check {
   interface Call {
@@ -29,6 +31,17 @@ final class Check {
         System.out.println(what + " answered " + got + ", due is " + due);
       }
     }
+  }
+
+  /** Lines that must be the same; the first that is not is told. */
+  static void sameLines(String what, List<String> got, List<String> due) {
+    for (int line = 0; line < Math.min(got.size(), due.size()); line++) {
+      if (!got.get(line).equals(due.get(line))) {
+        same(what + ", line " + line, got.get(line), due.get(line));
+        return;
+      }
+    }
+    same(what + ", lines", String.valueOf(got.size()), String.valueOf(due.size()));
   }
 
   static void due(String what, Call call, Object due) {

@@ -31,23 +31,6 @@ public final class PromisesTest {
     Check.end("PromisesTest");
   }
 
-  // a duct of EASE 8 to a machine that is used in case 0: half the fan's pressure stands at it
-  private static DuctBalance half(double strength, double fall, double need) {
-    DuctBalance x = new DuctBalance();
-    x.joint();
-    x.duct(0, 1, 1, 2);
-    x.machine(1, need);
-    x.use(0, 0, true);
-    x.fan(strength, fall);
-    return x;
-  }
-
-  private static DuctBalance solvedHalf() {
-    DuctBalance x = half(64, 0, 1000);
-    x.solve(0);
-    return x;
-  }
-
   private static Object use(DuctBalance x, int caseOf, int machine, boolean on) {
     x.use(caseOf, machine, on);
     return "done";
@@ -151,7 +134,7 @@ public final class PromisesTest {
   }
 
   private static void use() {
-    DuctBalance x = half(64, 0, 1000);
+    DuctBalance x = Scenes.half(64, 0, 1000);
     x.use(0, 0, false);
     x.solve(0);
     Check.due("used no more", () -> x.draws(0, 1), 0.0);
@@ -177,7 +160,7 @@ public final class PromisesTest {
   }
 
   private static void fan() {
-    DuctBalance x = solvedHalf();
+    DuctBalance x = Scenes.solvedHalf();
     double[] wrong = {-0.001, 1000.01, NAN, INFINITE, -INFINITE};
     for (double no : wrong) {
       Check.argument("strength " + no, () -> fan(x, no, 1));
@@ -195,7 +178,7 @@ public final class PromisesTest {
   }
 
   private static void solveRounds() {
-    DuctBalance x = half(64, 0, 1000);
+    DuctBalance x = Scenes.half(64, 0, 1000);
     Check.due("two rounds", () -> x.solve(0), 2);
     Check.due("half the pressure", () -> x.at(1, 0), -32.0);
     for (int no : NO_NUMBERS) {
@@ -204,28 +187,17 @@ public final class PromisesTest {
     Check.index("case 4", () -> x.solve(4));
     Check.due("a wrong case changes nothing", () -> x.at(1, 0), -32.0);
     Check.due("it begins anew", () -> x.solve(0), 2);
-    Check.due("the 100th round may be the last", () -> half(64, 0.2096, 1000).solve(0), 100);
-    DuctBalance slow = half(64, 0.21004, 1000);
+    Check.due("the 100th round may be the last", () -> Scenes.half(64, 0.2096, 1000).solve(0), 100);
+    DuctBalance slow = Scenes.half(64, 0.21004, 1000);
     Check.due("a 101st is not done", () -> slow.solve(0), -1);
     Check.state("not balanced, not solved", () -> slow.at(0, 0));
   }
 
-  // the fan, a duct of EASE 1 and behind it a dead end: half the fan's pressure comes in the first round
-  private static DuctBalance weak(double strength, double fall) {
-    DuctBalance x = new DuctBalance();
-    x.joint();
-    x.joint();
-    x.duct(0, 1, 1, 1);
-    x.duct(1, 2, 1, 1);
-    x.fan(strength, fall);
-    return x;
-  }
-
   private static void smallChanges() {
     double small = 1.0 / 1048576;
-    Check.due("a change of 2^-20 is not below it", () -> weak(2 * small, 0).solve(0), 2);
-    Check.due("a change just below", () -> weak(2 * small * (1 - 1e-12), 0).solve(0), 1);
-    DuctBalance x = weak(3 * small, 1000);
+    Check.due("a change of 2^-20 is not below it", () -> Scenes.weak(2 * small, 0).solve(0), 2);
+    Check.due("a change just below", () -> Scenes.weak(2 * small * (1 - 1e-12), 0).solve(0), 1);
+    DuctBalance x = Scenes.weak(3 * small, 1000);
     Check.due("the fan never blows", () -> x.solve(0), 2);
     Check.due("its pressure is held at 0", () -> x.at(0, 0), 0.0);
     Check.due("the next joint's", () -> x.at(1, 0), -0.75 * small);
@@ -234,18 +206,18 @@ public final class PromisesTest {
   }
 
   private static void solveGates() {
-    DuctBalance x = half(64, 0, 128);
+    DuctBalance x = Scenes.half(64, 0, 128);
     Check.due("rounds of all times", () -> x.solve(0), 14);
     Check.due("gate", () -> x.draws(0, 0), 0.3333740234375);
-    DuctBalance enough = half(64, 0, 256);
+    DuctBalance enough = Scenes.half(64, 0, 256);
     Check.due("as much as it needs", () -> enough.solve(0), 2);
     Check.due("leaves the gate", () -> enough.draws(0, 0), 1.0);
-    DuctBalance thousandth = half(62.5625, 0, 250);
+    DuctBalance thousandth = Scenes.half(62.5625, 0, 250);
     Check.due("a thousandth above is no reason to go on", () -> thousandth.solve(0), 2);
     Check.due("but closes the gate", () -> thousandth.draws(0, 0), 250 / 250.25);
     Check.due("so that it draws its need", () -> thousandth.draws(0, 1), 250 / 250.25 * 8 * 31.28125);
-    Check.due("more is a reason", () -> half(62.5626, 0, 250).solve(0), 4);
-    Check.due("the fan's flow is kept from time to time", () -> half(256, 0.125, 16).solve(0), 42 + 5);
+    Check.due("more is a reason", () -> Scenes.half(62.5626, 0, 250).solve(0), 4);
+    Check.due("the fan's flow is kept from time to time", () -> Scenes.half(256, 0.125, 16).solve(0), 42 + 5);
     tenTimes();
   }
 
@@ -288,7 +260,7 @@ public final class PromisesTest {
   }
 
   private static void solveCases() {
-    DuctBalance x = half(64, 0, 1000);
+    DuctBalance x = Scenes.half(64, 0, 1000);
     x.machine(1, 1000);
     x.use(1, 1, true);
     x.use(2, 0, true);
@@ -303,17 +275,17 @@ public final class PromisesTest {
   }
 
   private static void whatUnsolves() {
-    Check.state("a joint", () -> { DuctBalance x = solvedHalf(); x.joint(); return x.at(0, 0); });
-    Check.state("a duct", () -> { DuctBalance x = solvedHalf(); x.duct(0, 1, 1, 1); return x.at(0, 0); });
-    Check.state("a machine", () -> { DuctBalance x = solvedHalf(); x.machine(1, 1); return x.at(0, 0); });
-    Check.state("a use", () -> { DuctBalance x = solvedHalf(); x.use(3, 0, false); return x.at(0, 0); });
-    Check.state("a fan", () -> { DuctBalance x = solvedHalf(); x.fan(64, 0); return x.at(0, 0); });
-    Check.due("not a reading", () -> { DuctBalance x = solvedHalf(); x.read(0, 1); return x.at(0, 0); }, -64.0);
-    Check.due("not the list", () -> { DuctBalance x = solvedHalf(); x.list(1, 1); return x.at(0, 0); }, -64.0);
-    Check.due("not leaks", () -> { DuctBalance x = solvedHalf(); x.fit(1); return x.at(0, 0); }, -64.0);
-    Check.due("not a count", () -> { DuctBalance x = solvedHalf(); x.count(0); return x.at(0, 0); }, -64.0);
+    Check.state("a joint", () -> { DuctBalance x = Scenes.solvedHalf(); x.joint(); return x.at(0, 0); });
+    Check.state("a duct", () -> { DuctBalance x = Scenes.solvedHalf(); x.duct(0, 1, 1, 1); return x.at(0, 0); });
+    Check.state("a machine", () -> { DuctBalance x = Scenes.solvedHalf(); x.machine(1, 1); return x.at(0, 0); });
+    Check.state("a use", () -> { DuctBalance x = Scenes.solvedHalf(); x.use(3, 0, false); return x.at(0, 0); });
+    Check.state("a fan", () -> { DuctBalance x = Scenes.solvedHalf(); x.fan(64, 0); return x.at(0, 0); });
+    Check.due("not a reading", () -> { DuctBalance x = Scenes.solvedHalf(); x.read(0, 1); return x.at(0, 0); }, -64.0);
+    Check.due("not the list", () -> { DuctBalance x = Scenes.solvedHalf(); x.list(1, 1); return x.at(0, 0); }, -64.0);
+    Check.due("not leaks", () -> { DuctBalance x = Scenes.solvedHalf(); x.fit(1); return x.at(0, 0); }, -64.0);
+    Check.due("not a count", () -> { DuctBalance x = Scenes.solvedHalf(); x.count(0); return x.at(0, 0); }, -64.0);
     Check.state("a solve that fails", () -> {
-      DuctBalance x = half(64, 0.5, 1000);
+      DuctBalance x = Scenes.half(64, 0.5, 1000);
       x.solve(1);
       x.at(0, 0);
       x.solve(0);
@@ -322,12 +294,12 @@ public final class PromisesTest {
   }
 
   private static void at() {
-    DuctBalance x = solvedHalf();
+    DuctBalance x = Scenes.solvedHalf();
     Check.due("pressure at the fan", () -> x.at(0, 0), -64.0);
     Check.due("pressure", () -> x.at(1, 0), -32.0);
     Check.due("residual of the fan", () -> x.at(0, 1), 0.0);
     Check.due("residual", () -> x.at(1, 1), 0.0);
-    DuctBalance gated = half(64, 0, 128);
+    DuctBalance gated = Scenes.half(64, 0, 128);
     gated.solve(0);
     Check.due("residual after the gate closed", () -> gated.at(1, 1), -0.04686927865255086);
     DuctBalance turned = new DuctBalance();
@@ -359,7 +331,7 @@ public final class PromisesTest {
   }
 
   private static void of() {
-    DuctBalance x = solvedHalf();
+    DuctBalance x = Scenes.solvedHalf();
     Check.due("flow", () -> x.of(0, 0), -256.0);
     Check.due("speed", () -> x.of(0, 1), 64.0);
     Check.due("ease", () -> x.of(0, 2), 8.0);
@@ -380,7 +352,7 @@ public final class PromisesTest {
   }
 
   private static void draws() {
-    DuctBalance x = half(64, 0, 200);
+    DuctBalance x = Scenes.half(64, 0, 200);
     x.machine(1, 1);
     x.solve(0);
     Check.due("gate of one that is not used", () -> x.draws(1, 0), 0.0);
@@ -405,7 +377,7 @@ public final class PromisesTest {
     DuctBalance none = new DuctBalance();
     none.solve(0);
     Check.due("no ducts keep anything", () -> none.keeps(1000), true);
-    DuctBalance x = solvedHalf();
+    DuctBalance x = Scenes.solvedHalf();
     Check.due("none is below 0", () -> x.keeps(0), true);
     Check.due("just so", () -> x.keeps(64), true);
     Check.due("just not", () -> x.keeps(64.001), false);
@@ -443,7 +415,7 @@ public final class PromisesTest {
   }
 
   private static void size() {
-    DuctBalance x = half(60, 0, 256);
+    DuctBalance x = Scenes.half(60, 0, 256);
     Check.index("no case before no list", () -> x.size(4));
     Check.state("no list", () -> x.size(0));
     x.list(100, 7);
@@ -474,13 +446,13 @@ public final class PromisesTest {
   }
 
   private static void sizeLeavesSolved() {
-    DuctBalance x = half(60, 0, 1000);
+    DuctBalance x = Scenes.half(60, 0, 1000);
     x.list(2, 5);
     x.list(1, 4);
     Check.due("too little air", () -> x.size(0), -1);
     Check.due("but balanced, with the last width", () -> x.of(0, 2), 8.0);
     Check.due("and solved", () -> x.draws(0, 1), 240.0);
-    DuctBalance slow = half(60, 0.5, 100);
+    DuctBalance slow = Scenes.half(60, 0.5, 100);
     slow.list(2, 1);
     slow.solve(1);
     Check.due("not balanced", () -> slow.size(0), -1);
@@ -522,7 +494,7 @@ public final class PromisesTest {
   }
 
   private static void fit() {
-    DuctBalance x = solvedHalf();
+    DuctBalance x = Scenes.solvedHalf();
     x.duct(0, 1, 1, 2);
     x.solve(0);
     Check.due("no readings", () -> x.fit(50), 0.0);
@@ -551,7 +523,7 @@ public final class PromisesTest {
   }
 
   private static void fitFollowsTheFlow() {
-    DuctBalance x = solvedHalf();
+    DuctBalance x = Scenes.solvedHalf();
     x.read(0, 264);
     x.fit(1);
     x.fan(32, 0);
@@ -565,7 +537,7 @@ public final class PromisesTest {
   }
 
   private static void count() {
-    DuctBalance x = half(64, 0, 1000);
+    DuctBalance x = Scenes.half(64, 0, 1000);
     x.joint();
     x.joint();
     x.duct(1, 2, 1, 1);
