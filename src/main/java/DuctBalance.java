@@ -107,6 +107,7 @@ public final class DuctBalance {
   }
 
   public boolean keeps(double least) throws IllegalArgumentException, IllegalStateException {
+    // NaN is not below 0, and only what is below 0 is refused
     checkArgument(!(least < 0));
     checkState(solved);
     return air.isEachSpeedAtLeast(least);
@@ -226,6 +227,7 @@ public final class DuctBalance {
       return first[duct] == joint ? second[duct] : first[duct];
     }
 
+    // a duct's two ends are never one joint, so a joint's row has room for every duct
     private void hangOn(int joint, int duct) {
       ofJoint[joint][ductsOfJoint[joint]] = duct;
       ductsOfJoint[joint]++;
